@@ -24,14 +24,13 @@ public final class JudgesByLoss {
     private final int[] most = new int[(CASES + 1) << JUDGES];
 
     public JudgesByLoss() {
-        Judge[] kinds = {new Judge(), new Young(), new Widow(), new Lucky(), new Appeal(), new Old()};
         int[] firstCode = {Text.HARD, Text.THINGS, Text.MIND};
         int[] firstEnds = {1, 2, 3};
         Text first = new Text(firstCode, firstEnds);
         texts[0] = first;
-        truth = new Bench(kinds, first);
-        thought = new Bench(kinds, first);
-        kept = new Bench(kinds, first);
+        truth = new Bench(first);
+        thought = new Bench(first);
+        kept = new Bench(first);
         for (int s = 0; s < SHEETS; s++) {
             sheets[s] = new Sheet();
         }
@@ -792,83 +791,14 @@ public final class JudgesByLoss {
         return 0;
     }
 
-    /** What a JUDGE of KIND 0 may and does; each other KIND tells what is otherwise. */
-    private static class Judge {
-        static final int NEVER = -1;
-
-        /** How many times what is NEEDED one has to mind, so that texts are read only where it matters. */
-        int burden(int about, int lost, int day, int more) {
-            return (about & ~lost) == 0 ? 1 : NEVER;
-        }
-
-        int takes(int said, int more) {
-            return said;
-        }
-
-        int judges(int said, int more) {
-            return said;
-        }
-    }
-
-    private static class Young extends Judge {
-        int burden(int about, int lost, int day, int more) {
-            return Integer.bitCount(about & ~lost) <= 1 ? 1 : NEVER;
-        }
-
-        int takes(int said, int more) {
-            return said + more;
-        }
-    }
-
-    private static class Widow extends Judge {
-        int burden(int about, int lost, int day, int more) {
-            return day % 10 < more ? NEVER : super.burden(about, lost, day, more);
-        }
-
-        int judges(int said, int more) {
-            return said + more;
-        }
-    }
-
-    private static final class Lucky extends Young {
-        int burden(int about, int lost, int day, int more) {
-            if (about == 1 << more) {
-                return 0;
-            }
-            return Integer.bitCount(about) < 3 ? NEVER : super.burden(about, lost, day, more);
-        }
-
-        int judges(int said, int more) {
-            return said / 2;
-        }
-    }
-
-    private static final class Appeal extends Widow {
-        int burden(int about, int lost, int day, int more) {
-            int widows = super.burden(about, lost, day, more);
-            return widows == NEVER ? NEVER : 2 * widows;
-        }
-
-        int takes(int said, int more) {
-            return 2 * said;
-        }
-    }
-
-    private static final class Old extends Judge {
-        int burden(int about, int lost, int day, int more) {
-            return day % 7 == more ? 0 : NEVER;
-        }
-
-        int judges(int said, int more) {
-            return -said;
-        }
-    }
-
     /** Judges, cases, the day and the law: as they truly are, as in thought, or as in the image. */
     private static final class Bench {
+        static final int JUDGE = 0, YOUNG = 1, WIDOW = 2, LUCKY = 3, APPEAL = 4, OLD = 5;
+        // by KIND, the bits of the KINDS that one of it is
+        static final int[] IS_ONE_OF = {1, 3, 5, 11, 21, 33};
         static final int NEEDED = 0, TAKEN = 1, JUDGED = 2;
+        static final int NEVER = -1;
 
-        final Judge[] kinds;
         final int[] kind = new int[JUDGES], more = new int[JUDGES];
         final int[] lost = new int[JUDGES], mind = new int[JUDGES], busy = new int[JUDGES];
         final int[] about = new int[CASES], hard = new int[CASES], waited = new int[CASES];
@@ -876,8 +806,7 @@ public final class JudgesByLoss {
         int judges, there, day, heard, lawNumber;
         Text law;
 
-        Bench(Judge[] kinds, Text law) {
-            this.kinds = kinds;
+        Bench(Text law) {
             this.law = law;
         }
 
@@ -913,18 +842,8 @@ public final class JudgesByLoss {
             return c >= 0 && c < CASES && (there >> c & 1) == 1;
         }
 
-        /** Of a KIND, or of one that is one. */
         boolean isOf(int p, int wanted) {
-            Judge own = kinds[kind[p]];
-            switch (wanted) {
-                case 0: return true;
-                case 1: return own instanceof Young;
-                case 2: return own instanceof Widow;
-                case 3: return own instanceof Lucky;
-                case 4: return own instanceof Appeal;
-                case 5: return own instanceof Old;
-                default: return false;
-            }
+            return (IS_ONE_OF[kind[p]] >> wanted & 1) == 1;
         }
 
         int says(int part, int p, int c) {
@@ -938,12 +857,27 @@ public final class JudgesByLoss {
             return Math.max(least, Math.min(MOST, law.valueOf(part, facts)));
         }
 
-        boolean may(int p, int c) {
-            int burden = kinds[kind[p]].burden(about[c], lost[p], day, more[p]);
-            if (burden <= 0) {
-                return burden == 0;
+        /** How many times what is NEEDED one has to mind, so that the text is read only where it matters. */
+        int burden(int p, int c) {
+            int missing = Integer.bitCount(about[c] & ~lost[p]);
+            switch (kind[p]) {
+                case JUDGE: return missing == 0 ? 1 : NEVER;
+                case YOUNG: return missing <= 1 ? 1 : NEVER;
+                case WIDOW: return missing == 0 && day % 10 >= more[p] ? 1 : NEVER;
+                case LUCKY:
+                    if (about[c] == 1 << more[p]) {
+                        return 0;
+                    }
+                    return missing <= 1 && Integer.bitCount(about[c]) >= 3 ? 1 : NEVER;
+                case APPEAL: return missing == 0 && day % 10 >= more[p] ? 2 : NEVER;
+                case OLD: return day % 7 == more[p] ? 0 : NEVER;
+                default: return NEVER;
             }
-            return mind[p] >= burden * says(NEEDED, p, c);
+        }
+
+        boolean may(int p, int c) {
+            int burden = burden(p, c);
+            return burden != NEVER && (burden == 0 || mind[p] >= burden * says(NEEDED, p, c));
         }
 
         boolean can(int p, int c) {
@@ -951,11 +885,22 @@ public final class JudgesByLoss {
         }
 
         int daysFor(int p, int c) {
-            return Math.max(1, kinds[kind[p]].takes(says(TAKEN, p, c), more[p]));
+            int said = says(TAKEN, p, c);
+            switch (kind[p]) {
+                case YOUNG: case LUCKY: return Math.max(1, said + more[p]);
+                case APPEAL: return Math.max(1, 2 * said);
+                default: return Math.max(1, said);
+            }
         }
 
         int hardnessOf(int p, int c) {
-            return kinds[kind[p]].judges(says(JUDGED, p, c), more[p]);
+            int said = says(JUDGED, p, c);
+            switch (kind[p]) {
+                case WIDOW: case APPEAL: return said + more[p];
+                case LUCKY: return said / 2;
+                case OLD: return -said;
+                default: return said;
+            }
         }
 
         int casesFor(int p) {
@@ -1068,23 +1013,20 @@ public final class JudgesByLoss {
                     stack[top] = word == NEGATE ? -stack[top] : stack[top] == 0 ? 1 : 0;
                 } else if (top >= 1) {
                     top--;
-                    stack[top] = joined(word, stack[top], stack[top + 1]);
+                    int a = stack[top];
+                    int b = stack[top + 1];
+                    switch (word) {
+                        case OR: stack[top] = a != 0 || b != 0 ? 1 : 0; break;
+                        case AND: stack[top] = a != 0 && b != 0 ? 1 : 0; break;
+                        case BELOW: stack[top] = a < b ? 1 : 0; break;
+                        case SAME: stack[top] = a == b ? 1 : 0; break;
+                        case PLUS: stack[top] = a + b; break;
+                        case MINUS: stack[top] = a - b; break;
+                        default: stack[top] = a * b; break;
+                    }
                 }
             }
             return top >= 0 ? stack[top] : 0;
-        }
-
-        private static int joined(int sign, int a, int b) {
-            switch (sign) {
-                case OR: return a != 0 || b != 0 ? 1 : 0;
-                case AND: return a != 0 && b != 0 ? 1 : 0;
-                case BELOW: return a < b ? 1 : 0;
-                case SAME: return a == b ? 1 : 0;
-                case PLUS: return a + b;
-                case MINUS: return a - b;
-                case TIMES: return a * b;
-                default: return 0;
-            }
         }
     }
 
@@ -1322,10 +1264,6 @@ public final class JudgesByLoss {
             if (isWord("not", place, end)) {
                 return Text.NOT;
             }
-            return nameBetween(place, end);
-        }
-
-        private int nameBetween(int place, int end) {
             if (isWord("hard", place, end)) {
                 return Text.HARD;
             }

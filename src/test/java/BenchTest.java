@@ -312,6 +312,8 @@ public final class BenchTest {
         due.is("WIDOW too early", may(23, 7, 20, 7, 20, 2), 0);
         due.is("WIDOW", may(23, 7, 20, 7, 20, 3), 1);
         due.is("WIDOW ten days later", may(23, 7, 20, 7, 20, 12), 0);
+        due.is("WIDOW of MORE 1, day 10", may(21, 7, 20, 7, 20, 10), 0);
+        due.is("WIDOW of MORE 1, day 11", may(21, 7, 20, 7, 20, 11), 1);
         due.is("WIDOW of MORE 0", may(20, 7, 20, 7, 20, 10), 1);
         due.is("WIDOW of MORE 9", may(29, 7, 20, 7, 20, 999), 1);
         due.is("WIDOW lost less", may(23, 3, 20, 7, 20, 3), 0);

@@ -194,6 +194,13 @@ public final class DaysTest {
         x.file(8, 10);
         due.is("never", x.when(2), -1);
         due.is("never none", x.when(8), -1);
+        JudgesByLoss z = new JudgesByLoss();
+        z.judge(0, 128, 50);
+        z.judge(0, 1, 50);
+        z.put(1, 2, 5);
+        z.file(1, 10);
+        z.file(128, 10);
+        due.is("no case, the first as the last", z.when(8), 5);
         JudgesByLoss y = new JudgesByLoss();
         y.judge(0, 1, 50);
         y.file(1, 10);
@@ -286,6 +293,14 @@ public final class DaysTest {
         due.is("judge 3", x.wants(3, 2, 2), -5);
         x.put(0, 2, 9);
         due.is("though BUSY", x.wants(0, 0, 0), 36);
+        x.put(0, 0, 0);
+        x.file(1023, 50);
+        due.is("all", x.wants(0, 2, 0), 1023);
+        due.is("all, how many", x.wants(0, 2, 1), 10);
+        due.is("YOUNG, all but the highest that it is about", x.wants(1, 2, 0), 510);
+        x.put(0, 2, 0);
+        x.put(0, 0, 1023);
+        x.hear(0, 2);
         Due.read(x, "needs 99*(lost<3);takes 1;judges 1;");
         x.force(1);
         x.put(2, 0, 0);

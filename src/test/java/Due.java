@@ -17,7 +17,8 @@ final class Due {
     }
 
     void end() {
-        System.out.println(wrong == 0 ? "all " + asked + " answers are as due" : wrong + " of " + asked + " answers are not as due");
+        String rest = wrong == 0 ? " answers are as due" : " answers, " + wrong + " not as due";
+        System.out.println("all " + asked + rest);
         System.exit(wrong == 0 ? 0 : 1);
     }
 

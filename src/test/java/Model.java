@@ -3,6 +3,7 @@ import java.util.ArrayList;
 import java.util.List;
 import java.util.Set;
 import java.util.TreeSet;
+import java.util.function.BiConsumer;
 import java.util.function.Consumer;
 import java.util.function.ToIntFunction;
 
@@ -397,7 +398,8 @@ public final class Model {
     }
 
     public int count(int what) {
-        int[] all = {world.judges.size(), world.there().size(), world.heard, texts.size(), world.law, tape.length(), world.day};
+        int[] all = {world.judges.size(), world.there().size(), world.heard, texts.size(), world.law,
+            tape.length(), world.day};
         return in(what, 0, 6) ? all[what] : -2;
     }
 
@@ -453,7 +455,10 @@ public final class Model {
     }
 
     public int asks(int part, int p, int c) {
-        return !in(part, 0, 2) || noJudge(p) || noCase(c) ? -1000 : world.says(part, world.judges.get(p), world.cases[c]);
+        if (!in(part, 0, 2) || noJudge(p) || noCase(c)) {
+            return -1000;
+        }
+        return world.says(part, world.judges.get(p), world.cases[c]);
     }
 
     public int judge(int kindMore, int own, int minds) {
@@ -756,7 +761,8 @@ public final class Model {
         return -1;
     }
 
-    private int fitting(int s, int from, int to, java.util.function.BiConsumer<World, Integer> change, ToIntFunction<Set<Integer>> answer) {
+    private int fitting(int s, int from, int to, BiConsumer<World, Integer> change,
+        ToIntFunction<Set<Integer>> answer) {
         Set<Integer> fits = new TreeSet<>();
         for (int v = from; v <= to; v++) {
             int value = v;

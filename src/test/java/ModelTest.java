@@ -9,8 +9,9 @@ import java.util.List;
 /** Drawn runs of calls, each call asked of the class and of the model: the answers are the same. */
 public final class ModelTest {
     private static final int RUNS = 600;
-    private static final int[] EDGES = {Integer.MIN_VALUE, Integer.MAX_VALUE, -2, -1, 0, 1, 2, 3, 4, 5, 6, 7, 8, 9, 10, 13, 14, 20, 21,
-        29, 30, 40, 41, 59, 60, 99, 100, 255, 256, 999, 1000, 1023, 1024, 99999, 100000, 0x7ffffffd};
+    private static final int[] EDGES = {Integer.MIN_VALUE, Integer.MAX_VALUE, -2, -1, 0, 1, 2, 3, 4, 5, 6, 7, 8, 9,
+        10, 13, 14, 20, 21, 29, 30, 40, 41, 59, 60, 99, 100, 255, 256, 999, 1000, 1023, 1024, 99999, 100000,
+        0x7ffffffd};
     private static final String[] NAMES = {"hard", "things", "mind", "lost", "day", "more"};
 
     private final List<Method> face = new ArrayList<>();
@@ -216,8 +217,8 @@ public final class ModelTest {
 
     private void spoil(StringBuilder text) {
         int at = draw(text.length());
-        String[] bits = {"(", ")", ";", "+", "-", "*", "<", "=", " ", "\n", "not ", " or ", " and ", "12345", "9999", "x", "A", "\t",
-            "needs", "mind", "((((((", "------", "not not not not not not ", "\u00e9", "0", " hard"};
+        String[] bits = {"(", ")", ";", "+", "-", "*", "<", "=", " ", "\n", "not ", " or ", " and ", "12345", "9999",
+            "x", "A", "\t", "needs", "mind", "((((((", "------", "not not not not not not ", "\u00e9", "0", " hard"};
         switch (draw(4)) {
             case 0: text.deleteCharAt(at); break;
             case 1: text.setLength(at); break;

@@ -207,6 +207,18 @@ public final class SheetsTest {
         due.is("seed 99999", y.drawn(99999, 0) < 0 ? 0 : 1, 1);
         due.is("what 2", y.drawn(0, 2), -2);
         due.is("what -1", y.drawn(0, -1), -2);
+        // by seed 0 the second day's LOTS are 1291394886 (0 modulo 6), 1914720637 (7 modulo 10)
+        x.hear(1, 0);
+        x.file(128, 0);
+        x.put(1, 2, 99);
+        due.is("heard in the second day", x.drawn(0, 0), 1);
+        JudgesByLoss w = new JudgesByLoss();
+        w.judge(33, 0, 0);
+        w.file(8, 0);
+        w.put(0, 2, 10);
+        due.is("in the tenth day", w.drawn(0, 0), 1);
+        w.put(0, 2, 11);
+        due.is("in the eleventh day", w.drawn(0, 0), 0);
         JudgesByLoss z = new JudgesByLoss();
         z.judge(59, 0, 0);
         z.judge(52, 0, 0);
@@ -264,10 +276,13 @@ public final class SheetsTest {
         x.put(1, 2, 50);
         x.file(9, 9);
         x.dawn(500);
+        x.judge(33, 0, 0);
+        x.file(8, 99);
+        due.is("a hearing behind the image", x.hear(3, 2), 1000);
         x.force(1);
         x.rob(1, 24);
-        x.hear(2, 0);
         x.day();
+        due.is("HEARD by then", x.count(2), 2);
         Due.write(x, 0, 4);
         for (int i = 0; i < 2; i++) {
             due.promise(35, "back, time " + i);
@@ -361,6 +376,7 @@ public final class SheetsTest {
         x.sheet(2, 1, 5);
         due.is("SHEET 4", x.copy(4, 0, 3, 0, 1), -2);
         due.is("other -1", x.copy(3, 0, -1, 0, 1), -2);
+        due.is("other 4", x.copy(3, 0, 4, 0, 1), -2);
         due.is("missing", x.copy(3, 0, 2, 0, 1), -11);
         due.is("other missing", x.copy(0, 0, 3, 0, 1), -11);
         due.is("unlike, ahead of the place", x.copy(0, 0, 2, 99, 1), -13);
@@ -422,9 +438,9 @@ public final class SheetsTest {
         y.cell(0, 4, 100);
         due.is("a byte of 200 is below 0", y.judgesBy(0, 0, 0, 2), 1);
         due.is("LOST", y.told(0, 0), 100);
-        y.sheet(0, 1, 3);
-        y.cell(0, 1, 65536 + 600);
-        due.is("a short", y.judgesBy(0, 1, 0, 1), 1);
+        y.sheet(3, 1, 3);
+        y.cell(3, 1, 65536 + 600);
+        due.is("a short", y.judgesBy(3, 1, 0, 1), 1);
         due.is("LOST", y.told(1, 0), 600);
     }
 

@@ -5,6 +5,7 @@ public final class TextTest {
     public static void main(String[] args) {
         due.promise(5, "text");
         faults();
+        faultsOfMany();
         faultsOfDepth();
         fit();
         values();
@@ -34,6 +35,8 @@ public final class TextTest {
         fault("needs 1;takes 2;judges 3  ", 26);
         fault("needs 1;takes 2;judges 3; 4", 26);
         fault("needs 1;takes 2;judges 3;;", 25);
+        fault("needs 1;takes 2;judges 3;$", 25);
+        fault("needs 1;takes 2;judges 3; x", 26);
         fault("needs 12345;", 6);
         fault("needs 00001;", 6);
         fault("needs 1 2;", 8);
@@ -45,6 +48,15 @@ public final class TextTest {
         fault("needs Mind;", 6);
         fault("needsmind;", 0);
         fault("needs notmind;", 6);
+        fault("needs hardz;", 6);
+        fault("needs zhard;", 6);
+        fault("needs hard{;", 10);
+        fault("needs hard`;", 10);
+        fault("needs 1/;", 7);
+        fault("needs 1:;", 7);
+        fault("xeeds 1;", 0);
+        fault("needs xard;", 6);
+        fault("needs hare;", 6);
         fault("needs\t1;", 5);
         fault("needs\r1;", 5);
         fault("needs 1\0;", 7);
@@ -67,6 +79,29 @@ public final class TextTest {
         fault("needs 1);", 7);
         fault("needs (1 2);", 9);
         fault("needs 1 $ 12345;", 8);
+    }
+
+    private static void faultsOfMany() {
+        StringBuilder signs = new StringBuilder();
+        for (int i = 0; i < 160; i++) {
+            signs.append(';');
+        }
+        fault(signs.toString(), 0);
+        StringBuilder sum = new StringBuilder("needs 1");
+        while (sum.length() < 159) {
+            sum.append("+1");
+        }
+        JudgesByLoss x = new JudgesByLoss();
+        x.judge(0, 0, 0);
+        x.file(1, 0);
+        for (int i = 0; i < 2; i++) {
+            due.is("a sum that does not end", Due.read(x, sum.toString()), -259);
+        }
+        due.is("a text behind them", Due.read(x, "needs 1+2;takes 3*4;judges 5-6;"), 1);
+        x.force(1);
+        due.is("its needs", x.asks(0, 0, 0), 3);
+        due.is("its takes", x.asks(1, 0, 0), 12);
+        due.is("its judges", x.asks(2, 0, 0), -1);
     }
 
     private static void faultsOfDepth() {
@@ -136,6 +171,11 @@ public final class TextTest {
         value("(1 or 0) and 0", 0);
         value("2 and 4", 1);
         value("2 and 0", 0);
+        value("1 and 1", 1);
+        value("0 and 1", 0);
+        value("0 or 1", 1);
+        value("(((1+2)*(3+4)-5)*2+(6-(7-8)))", 39);
+        value("0 or 1 and 2<3+4*(0 or 1 and 2<3+4*(5-1))", 1);
         value("-1 and -2", 1);
         value("not 5", 0);
         value("not 0", 1);
