@@ -327,6 +327,8 @@ public final class BenchTest {
         due.is("APPEAL", may(42, 7, 40, 7, 20, 2), 1);
         due.is("APPEAL minds less than twice", may(42, 7, 39, 7, 20, 2), 0);
         due.is("APPEAL too early", may(42, 7, 40, 7, 20, 1), 0);
+        due.is("APPEAL of MORE 2, day 11", may(42, 7, 40, 7, 20, 11), 0);
+        due.is("APPEAL of MORE 2, day 12", may(42, 7, 40, 7, 20, 12), 1);
         due.is("APPEAL lost less", may(42, 3, 99, 7, 20, 2), 0);
         due.is("APPEAL, twice above 99", may(40, 7, 99, 7, 50, 0), 0);
         due.is("OLD", may(55, 0, 0, 7, 99, 5), 1);

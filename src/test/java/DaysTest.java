@@ -270,6 +270,15 @@ public final class DaysTest {
         due.is("n -1", x.burglary(-1, 0), -2);
         due.is("n 41", x.burglary(41, 0), -2);
         due.is("LOST", x.told(0, 0), 0);
+        JudgesByLoss y = new JudgesByLoss();
+        y.judge(0, 2, 50);
+        y.judge(0, 5, 50);
+        y.file(1, 60);
+        y.file(6, 0);
+        due.is("most, by the second judge, who then minds enough", y.burglary(9, 0), 11);
+        due.is("two", y.burglary(9, 1), 2);
+        due.is("in one day either, the first", y.burglary(1, 0), 2);
+        due.is("one", y.burglary(1, 1), 1);
     }
 
     private static void wants() {

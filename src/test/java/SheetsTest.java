@@ -188,6 +188,7 @@ public final class SheetsTest {
         x.judge(0, 0, 99);
         x.judge(0, 0, 99);
         x.file(16, 0);
+        x.put(0, 2, 99);
         due.is("heard in the first day", x.drawn(0, 0), 1);
         due.is("none there", x.drawn(0, 1), 0);
         due.is("LOST", x.told(1, 0), 0);
@@ -208,8 +209,10 @@ public final class SheetsTest {
         due.is("what 2", y.drawn(0, 2), -2);
         due.is("what -1", y.drawn(0, -1), -2);
         // by seed 0 the second day's LOTS are 1291394886 (0 modulo 6), 1914720637 (7 modulo 10)
+        x.put(1, 0, 16);
         x.hear(1, 0);
         x.file(128, 0);
+        x.put(0, 2, 0);
         x.put(1, 2, 99);
         due.is("heard in the second day", x.drawn(0, 0), 1);
         JudgesByLoss w = new JudgesByLoss();
