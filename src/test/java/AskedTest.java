@@ -17,7 +17,8 @@ public final class AskedTest {
         due.end();
     }
 
-    private static void ask(int promise, String call, Supplier<JudgesByLoss> scene, ToLongFunction<JudgesByLoss> asked) {
+    private static void ask(int promise, String call, Supplier<JudgesByLoss> scene,
+        ToLongFunction<JudgesByLoss> asked) {
         JudgesByLoss x = scene.get();
         due.promise(promise, call);
         long first = asked.applyAsLong(x);
@@ -55,7 +56,8 @@ public final class AskedTest {
         }
     }
 
-    private static void just(int promise, String call, ToLongFunction<JudgesByLoss> one, ToLongFunction<JudgesByLoss> other) {
+    private static void just(int promise, String call, ToLongFunction<JudgesByLoss> one,
+        ToLongFunction<JudgesByLoss> other) {
         JudgesByLoss x = Scenes.some();
         JudgesByLoss y = Scenes.some();
         one.applyAsLong(x);
